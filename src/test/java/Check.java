@@ -1,0 +1,168 @@
+/** What the tests share: comparing answers, and typing and keeping given bytes. */
+final class Check {
+    /** 20 bytes whose digest is 0 (found by lattice reduction). */
+    static final int[] DIGEST_ZERO =
+        {68, 32, 130, 60, 15, 2, 5, 24, 3, 3, 3, 14, 2, 7, 2, 15, 25, 31, 31, 1};
+    /** Two rows of bytes with one digest (found by lattice reduction). */
+    static final int[] TWIN_ONE =
+        {1, 2, 3, 4, 5, 6, 7, 8, 9, 10, 11, 12, 13, 14, 15, 16, 17, 18, 19, 20};
+    static final int[] TWIN_TWO =
+        {253, 230, 241, 194, 15, 6, 6, 0, 3, 25, 13, 0, 2, 0, 2, 2, 5, 7, 5, 11};
+    static final long TWIN_DIGEST = -5196607854407247717L;
+
+    static final Class<? extends RuntimeException> ARGUMENT = IllegalArgumentException.class;
+    static final Class<? extends RuntimeException> ELEMENT = java.util.NoSuchElementException.class;
+    static final Class<? extends RuntimeException> INDEX = IndexOutOfBoundsException.class;
+    static final Class<? extends RuntimeException> UNSUPPORTED = UnsupportedOperationException.class;
+
+    private static int wrong = 0;
+
+    interface Call {
+        void run();
+    }
+
+    static void same(String what, long got, long want) {
+        if (got != want) {
+            complain(what + " answered " + got + ", due is " + want);
+        }
+    }
+
+    static void sameText(String what, String got, String want) {
+        if (!got.equals(want)) {
+            complain(what + "\n  is  " + got + "\n  due " + want);
+        }
+    }
+
+    /** The call must throw just this class, and leave all of x that can be seen as it was. */
+    static void fails(String what, BlobJournal x, Class<? extends RuntimeException> due, Call call) {
+        String before = seen(x);
+        String got = "nothing";
+        try {
+            call.run();
+        } catch (RuntimeException e) {
+            got = e.getClass().getName();
+        }
+        sameText(what + " throws", got, due.getName());
+        sameText("state after " + what + " has thrown", seen(x), before);
+    }
+
+    static void complain(String text) {
+        wrong++;
+        System.out.println(text);
+    }
+
+    static void end() {
+        System.out.println(wrong == 0 ? "all answers are as due" : wrong + " answers are not as due");
+        if (wrong != 0) {
+            System.exit(1);
+        }
+    }
+
+    static String seen(BlobJournal x) {
+        StringBuilder text = new StringBuilder();
+        text.append("typed ").append(x.digest());
+        for (int what = 0; what < 4; what++) {
+            text.append(' ').append(x.count(what));
+        }
+        for (int tag = 0; tag < 8; tag++) {
+            text.append(' ').append(x.tag(tag));
+        }
+        return text.append(' ').append(journal(x)).toString();
+    }
+
+    static String journal(BlobJournal x) {
+        StringBuilder text = new StringBuilder("[");
+        for (int k = 0; k < x.count(2); k++) {
+            text.append(k == 0 ? "" : ", ").append(x.journal(k));
+        }
+        return text.append("]").toString();
+    }
+
+    static String blob(BlobJournal x, long digest) {
+        StringBuilder text = new StringBuilder("[");
+        for (int k = 0; k < x.length(digest); k++) {
+            text.append(k == 0 ? "" : ", ").append(x.byteOf(digest, k));
+        }
+        return text.append("]").toString();
+    }
+
+    static String row(int... bytes) {
+        return java.util.Arrays.toString(bytes);
+    }
+
+    /** Types just these bytes, in place of what was typed. */
+    static void type(BlobJournal x, int... bytes) {
+        x.cut(0);
+        for (int i = 0; i < bytes.length; i += 4) {
+            int word = 0;
+            for (int j = 0; j < 4 && i + j < bytes.length; j++) {
+                word |= bytes[i + j] << (8 * j);
+            }
+            x.type(word);
+        }
+        x.cut(bytes.length);
+    }
+
+    static long keep(BlobJournal x, int... bytes) {
+        type(x, bytes);
+        return x.keep();
+    }
+
+    /** A row of so many bytes, all the same but for the first. */
+    static int[] rowOf(int length, int first, int rest) {
+        int[] bytes = new int[length];
+        java.util.Arrays.fill(bytes, rest);
+        if (length > 0) {
+            bytes[0] = first;
+        }
+        return bytes;
+    }
+
+    /** A whole record of a kind: head, bytes and sum. */
+    static int[] record(int kind, int... bytes) {
+        int[] all = new int[bytes.length + 4];
+        all[0] = kind;
+        all[1] = bytes.length & 255;
+        all[2] = bytes.length >> 8;
+        System.arraycopy(bytes, 0, all, 3, bytes.length);
+        int sum = 0;
+        for (int b : all) {
+            sum += b;
+        }
+        all[all.length - 1] = sum & 255;
+        return all;
+    }
+
+    static int[] join(int[]... rows) {
+        int length = 0;
+        for (int[] row : rows) {
+            length += row.length;
+        }
+        int[] all = new int[length];
+        int at = 0;
+        for (int[] row : rows) {
+            System.arraycopy(row, 0, all, at, row.length);
+            at += row.length;
+        }
+        return all;
+    }
+
+    static int[] longBytes(long value) {
+        int[] bytes = new int[8];
+        for (int i = 0; i < 8; i++) {
+            bytes[i] = (int) (value >>> (8 * i)) & 255;
+        }
+        return bytes;
+    }
+
+    static int[] tellRecord(int tag, long digest) {
+        return record(2, join(new int[] {tag}, longBytes(digest)));
+    }
+
+    static int[] keyRecord(long key, long digest) {
+        return record(4, join(longBytes(key), longBytes(digest)));
+    }
+
+    private Check() {
+    }
+}
