@@ -5,6 +5,8 @@ public final class CrashTest {
         everyLength();
         everySpoiltByte();
         noSuchByte();
+        fullJournal();
+        emptyBlob();
         takesPins();
         stateComesBack();
         digestZero();
@@ -86,6 +88,31 @@ public final class CrashTest {
         Check.same("crash(44, 44)", sample().crash(44, 44), 62);
         Check.same("crash(44, 43)", sample().crash(44, 43), 57);
         Check.same("crash(0, 0)", sample().crash(0, 0), 18);
+    }
+
+    private static void fullJournal() {
+        for (int spoilt : new int[] {700, 699, 680, 679}) {
+            BlobJournal x = new BlobJournal();
+            for (int i = 0; i < 35; i++) {
+                x.learn(5, i);
+            }
+            int records = spoilt / 20;
+            Check.same("crash(700, " + spoilt + ")", x.crash(700, spoilt), 20 * records);
+            Check.same("look(5)", x.look(5), records - 1);
+        }
+    }
+
+    private static void emptyBlob() {
+        BlobJournal x = new BlobJournal();
+        Check.keep(x, 1);
+        long empty = Check.keep(x);
+        Check.same("crash behind the shortest record", x.crash(9, 9), 9);
+        Check.same("length", x.length(empty), 0);
+        BlobJournal y = new BlobJournal();
+        Check.keep(y, 1);
+        Check.keep(y);
+        Check.same("crash before its sum", y.crash(8, 9), 5);
+        Check.same("length", y.length(empty), BlobJournal.NONE);
     }
 
     private static void takesPins() {
