@@ -11,7 +11,7 @@ public final class BlobTest {
     }
 
     private static void keep() {
-        BlobJournal x = new BlobJournal();
+        Lasting x = new Lasting();
         long digest = Check.keep(x, 1, 2, 255);
         Check.same("keep()", digest, x.digest());
         Check.sameText("journal", Check.journal(x), Check.row(1, 3, 0, 1, 2, 255, 6));
@@ -24,7 +24,7 @@ public final class BlobTest {
     }
 
     private static void twins() {
-        BlobJournal x = new BlobJournal();
+        Lasting x = new Lasting();
         Check.keep(x, Check.TWIN_ONE);
         Check.same("keep() of a twin", Check.keep(x, Check.TWIN_TWO), Check.TWIN_DIGEST);
         Check.same("blobs", x.count(0), 1);
@@ -33,7 +33,7 @@ public final class BlobTest {
     }
 
     private static void twentyBlobs() {
-        BlobJournal x = new BlobJournal();
+        Lasting x = new Lasting();
         for (int i = 0; i < 20; i++) {
             Check.keep(x, i);
         }
@@ -47,7 +47,7 @@ public final class BlobTest {
     }
 
     private static void noRoom() {
-        BlobJournal x = new BlobJournal();
+        Lasting x = new Lasting();
         for (int i = 0; i < 10; i++) {
             Check.keep(x, Check.rowOf(64, i, 7));
         }
@@ -64,7 +64,7 @@ public final class BlobTest {
     }
 
     private static void length() {
-        BlobJournal x = new BlobJournal();
+        Lasting x = new Lasting();
         long empty = Check.keep(x);
         long three = Check.keep(x, 9, 8, 7);
         long most = Check.keep(x, Check.rowOf(64, 1, 1));
@@ -80,7 +80,7 @@ public final class BlobTest {
     }
 
     private static void byteOf() {
-        BlobJournal x = new BlobJournal();
+        Lasting x = new Lasting();
         long empty = Check.keep(x);
         long three = Check.keep(x, 9, 128, 255);
         Check.same("byte 0", x.byteOf(three, 0), 9);

@@ -10,15 +10,25 @@ final class Check {
         {253, 230, 241, 194, 15, 6, 6, 0, 3, 25, 13, 0, 2, 0, 2, 2, 5, 7, 5, 11};
     static final long TWIN_DIGEST = -5196607854407247717L;
 
+    static final long FILLING_KEY = -77L;
+
     static final Class<? extends RuntimeException> ARGUMENT = IllegalArgumentException.class;
     static final Class<? extends RuntimeException> ELEMENT = java.util.NoSuchElementException.class;
     static final Class<? extends RuntimeException> INDEX = IndexOutOfBoundsException.class;
     static final Class<? extends RuntimeException> UNSUPPORTED = UnsupportedOperationException.class;
 
     private static int wrong = 0;
+    private static String sentence = "";
 
     interface Call {
         void run();
+    }
+
+    /** Runs the test of one sentence of the document: what is wrong is told with the sentence. */
+    static void sentence(String words, Call test) {
+        sentence = "\"" + words + "\": ";
+        test.run();
+        sentence = "";
     }
 
     static void same(String what, long got, long want) {
@@ -29,13 +39,24 @@ final class Check {
 
     static void sameText(String what, String got, String want) {
         if (!got.equals(want)) {
-            complain(what + "\n  is  " + got + "\n  due " + want);
+            int at = 0;
+            while (at < got.length() && at < want.length() && got.charAt(at) == want.charAt(at)) {
+                at++;
+            }
+            complain(what + "\n  is  " + part(got, at) + "\n  due " + part(want, at));
         }
     }
 
-    /** The call must throw just this class, and leave all of x that can be seen as it was. */
-    static void fails(String what, BlobJournal x, Class<? extends RuntimeException> due, Call call) {
-        String before = seen(x);
+    /** The part of a text round a place: all of a long one would hide where it differs. */
+    private static String part(String text, int at) {
+        int start = Math.max(0, at - 120);
+        int end = Math.min(text.length(), at + 120);
+        return (start > 0 ? ".. " : "") + text.substring(start, end) + (end < text.length() ? " .." : "");
+    }
+
+    /** The call must throw just this class, and leave all of x as it was. */
+    static void fails(String what, Lasting x, Class<? extends RuntimeException> due, Call call) {
+        Lasting untouched = x.copy();
         String got = "nothing";
         try {
             call.run();
@@ -43,12 +64,13 @@ final class Check {
             got = e.getClass().getName();
         }
         sameText(what + " throws", got, due.getName());
-        sameText("state after " + what + " has thrown", seen(x), before);
+        untouched.lookWhere(x);
+        sameText("all there is after " + what + " has thrown", x.all(), untouched.all());
     }
 
     static void complain(String text) {
         wrong++;
-        System.out.println(text);
+        System.out.println(sentence + text);
     }
 
     static void end() {
@@ -58,19 +80,7 @@ final class Check {
         }
     }
 
-    static String seen(BlobJournal x) {
-        StringBuilder text = new StringBuilder();
-        text.append("typed ").append(x.digest());
-        for (int what = 0; what < 4; what++) {
-            text.append(' ').append(x.count(what));
-        }
-        for (int tag = 0; tag < 8; tag++) {
-            text.append(' ').append(x.tag(tag));
-        }
-        return text.append(' ').append(journal(x)).toString();
-    }
-
-    static String journal(BlobJournal x) {
+    static String journal(Lasting x) {
         StringBuilder text = new StringBuilder("[");
         for (int k = 0; k < x.count(2); k++) {
             text.append(k == 0 ? "" : ", ").append(x.journal(k));
@@ -78,7 +88,7 @@ final class Check {
         return text.append("]").toString();
     }
 
-    static String blob(BlobJournal x, long digest) {
+    static String blob(Lasting x, long digest) {
         StringBuilder text = new StringBuilder("[");
         for (int k = 0; k < x.length(digest); k++) {
             text.append(k == 0 ? "" : ", ").append(x.byteOf(digest, k));
@@ -91,7 +101,7 @@ final class Check {
     }
 
     /** Types just these bytes, in place of what was typed. */
-    static void type(BlobJournal x, int... bytes) {
+    static void type(Lasting x, int... bytes) {
         x.cut(0);
         for (int i = 0; i < bytes.length; i += 4) {
             int word = 0;
@@ -103,9 +113,25 @@ final class Check {
         x.cut(bytes.length);
     }
 
-    static long keep(BlobJournal x, int... bytes) {
+    static long keep(Lasting x, int... bytes) {
         type(x, bytes);
         return x.keep();
+    }
+
+    /** Tells a key digests and keeps a blob until the journal has just so many bytes. */
+    static void fill(Lasting x, int bytes) {
+        while (bytes - x.count(2) > 68) {
+            x.learn(FILLING_KEY, x.count(2) + 1);
+        }
+        keep(x, rowOf(bytes - x.count(2) - 4, x.count(2) & 255, 3));
+        same("bytes of the journal that is filled", x.count(2), bytes);
+    }
+
+    /** Tells a key one digest after another until the journal has 700 bytes. */
+    static void fillByKey(Lasting x, long key) {
+        while (x.count(2) < 700) {
+            x.learn(key, x.count(2) + 1);
+        }
     }
 
     /** A row of so many bytes, all the same but for the first. */
@@ -153,6 +179,15 @@ final class Check {
             bytes[i] = (int) (value >>> (8 * i)) & 255;
         }
         return bytes;
+    }
+
+    static long digestOf(int... bytes) {
+        long h = -7046029254386353131L;
+        for (int b : bytes) {
+            h = (h ^ b) * 1099511628211L;
+        }
+        h = (h ^ bytes.length) * -2960836687156293229L;
+        return h ^ (h >>> 32);
     }
 
     static int[] tellRecord(int tag, long digest) {

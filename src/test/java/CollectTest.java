@@ -15,7 +15,7 @@ public final class CollectTest {
     }
 
     private static void wrongPins() {
-        BlobJournal x = new BlobJournal();
+        Lasting x = new Lasting();
         for (int pin : new int[] {-1, 4, Integer.MIN_VALUE, Integer.MAX_VALUE}) {
             Check.fails("pin(" + pin + ", 1)", x, Check.ARGUMENT, () -> x.pin(pin, 1));
             Check.fails("pin(" + pin + ", 0)", x, Check.ARGUMENT, () -> x.pin(pin, 0));
@@ -26,7 +26,7 @@ public final class CollectTest {
     }
 
     private static void nothingTold() {
-        BlobJournal x = new BlobJournal();
+        Lasting x = new Lasting();
         long one = Check.keep(x, 1);
         Check.keep(x, 2);
         x.learn(7, one);
@@ -42,7 +42,7 @@ public final class CollectTest {
     }
 
     private static void order() {
-        BlobJournal x = new BlobJournal();
+        Lasting x = new Lasting();
         long one = Check.keep(x, 1, 1);
         long two = Check.keep(x, 2);
         long three = Check.keep(x, 3, 3, 3);
@@ -74,7 +74,7 @@ public final class CollectTest {
     }
 
     private static void pins() {
-        BlobJournal x = new BlobJournal();
+        Lasting x = new Lasting();
         long[] digests = new long[6];
         for (int i = 0; i < 6; i++) {
             digests[i] = Check.keep(x, i);
@@ -98,7 +98,7 @@ public final class CollectTest {
     }
 
     private static void pinOfLaterBlob() {
-        BlobJournal x = new BlobJournal();
+        Lasting x = new Lasting();
         Check.type(x, 1);
         x.pin(0, x.digest());
         Check.same("collect() of nothing", x.collect(), 0);
@@ -108,7 +108,7 @@ public final class CollectTest {
     }
 
     private static void digestZero() {
-        BlobJournal x = new BlobJournal();
+        Lasting x = new Lasting();
         Check.keep(x, Check.DIGEST_ZERO);
         x.pin(0, 0);
         x.learn(1, 0);
@@ -123,7 +123,7 @@ public final class CollectTest {
     }
 
     private static void keys() {
-        BlobJournal x = new BlobJournal();
+        Lasting x = new Lasting();
         long one = Check.keep(x, 1);
         x.tell(0, one);
         x.learn(1, one);
@@ -135,7 +135,7 @@ public final class CollectTest {
     }
 
     private static void ordersOfKeys() {
-        BlobJournal x = new BlobJournal();
+        Lasting x = new Lasting();
         long one = Check.keep(x, 1);
         long two = Check.keep(x, 2);
         x.pin(0, one);
@@ -160,7 +160,7 @@ public final class CollectTest {
     }
 
     private static void synced() {
-        BlobJournal x = new BlobJournal();
+        Lasting x = new Lasting();
         long one = Check.keep(x, 1);
         Check.keep(x, 2);
         x.sync();
@@ -173,7 +173,7 @@ public final class CollectTest {
     }
 
     private static void collectTwice() {
-        BlobJournal x = new BlobJournal();
+        Lasting x = new Lasting();
         for (int i = 0; i < 20; i++) {
             Check.keep(x, Check.rowOf(i, i, 200));
         }

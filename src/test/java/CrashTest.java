@@ -19,8 +19,8 @@ public final class CrashTest {
         Check.end();
     }
 
-    private static BlobJournal sample() {
-        BlobJournal x = new BlobJournal();
+    private static Lasting sample() {
+        Lasting x = new Lasting();
         long one = Check.keep(x, 1);
         x.tell(3, one);
         x.sync();
@@ -43,7 +43,7 @@ public final class CrashTest {
     }
 
     private static void wrongCounts() {
-        BlobJournal x = sample();
+        Lasting x = sample();
         Check.fails("crash(-1, 0)", x, Check.ARGUMENT, () -> x.crash(-1, 0));
         Check.fails("crash(65, 0)", x, Check.ARGUMENT, () -> x.crash(65, 0));
         Check.fails("crash(least, 0)", x, Check.ARGUMENT, () -> x.crash(Integer.MIN_VALUE, 0));
@@ -55,7 +55,7 @@ public final class CrashTest {
 
     private static void everyLength() {
         for (int n = 0; n <= 64; n++) {
-            BlobJournal x = sample();
+            Lasting x = sample();
             String before = Check.journal(x);
             Check.same("crash(" + n + ", -1)", x.crash(n, -1), whole(n));
             Check.same("journal", x.count(2), whole(n));
@@ -81,7 +81,7 @@ public final class CrashTest {
 
     private static void noSuchByte() {
         for (int spoilt : new int[] {-1, -18, 64, 63, Integer.MIN_VALUE, Integer.MAX_VALUE}) {
-            BlobJournal x = sample();
+            Lasting x = sample();
             boolean last = spoilt == 63;
             Check.same("crash(64, " + spoilt + ")", x.crash(64, spoilt), last ? 62 : 82);
         }
@@ -92,7 +92,7 @@ public final class CrashTest {
 
     private static void fullJournal() {
         for (int spoilt : new int[] {700, 699, 680, 679}) {
-            BlobJournal x = new BlobJournal();
+            Lasting x = new Lasting();
             for (int i = 0; i < 35; i++) {
                 x.learn(5, i);
             }
@@ -103,12 +103,12 @@ public final class CrashTest {
     }
 
     private static void emptyBlob() {
-        BlobJournal x = new BlobJournal();
+        Lasting x = new Lasting();
         Check.keep(x, 1);
         long empty = Check.keep(x);
         Check.same("crash behind the shortest record", x.crash(9, 9), 9);
         Check.same("length", x.length(empty), 0);
-        BlobJournal y = new BlobJournal();
+        Lasting y = new Lasting();
         Check.keep(y, 1);
         Check.keep(y);
         Check.same("crash before its sum", y.crash(8, 9), 5);
@@ -116,14 +116,14 @@ public final class CrashTest {
     }
 
     private static void takesPins() {
-        BlobJournal x = new BlobJournal();
+        Lasting x = new Lasting();
         long one = Check.keep(x, 1);
         for (int pin = 0; pin < 4; pin++) {
             x.pin(pin, one);
         }
         Check.same("crash", x.crash(5, -1), 5);
         Check.same("collect() without pins", x.collect(), 1);
-        BlobJournal y = new BlobJournal();
+        Lasting y = new Lasting();
         long same = Check.keep(y, 1);
         y.pin(2, same);
         Check.fails("crash that throws", y, Check.ARGUMENT, () -> y.crash(6, 0));
@@ -131,19 +131,19 @@ public final class CrashTest {
     }
 
     private static void stateComesBack() {
-        BlobJournal x = sample();
+        Lasting x = sample();
         x.crash(39, 50);
         long two = Check.keep(x, 2, 2);
         Check.same("journal when it is there already", x.count(2), 57);
         Check.same("tag(3)", x.tag(3), two);
         Check.same("look(5)", x.look(5), two);
         Check.sameText("blob", Check.blob(x, two), Check.row(2, 2));
-        BlobJournal y = sample();
+        Lasting y = sample();
         y.crash(6, 0);
         Check.same("tag(3) of the synced bytes", y.tag(3), Check.keep(y, 1));
         Check.same("blob that went", y.length(two), BlobJournal.NONE);
         Check.fails("key that went", y, Check.ELEMENT, () -> y.look(5));
-        BlobJournal z = sample();
+        Lasting z = sample();
         z.crash(64, -1);
         Check.same("tag(3) untold", z.tag(3), 0);
         Check.same("look(5) told anew", z.look(5), Check.keep(z, 1));
@@ -154,7 +154,7 @@ public final class CrashTest {
     }
 
     private static void digestZero() {
-        BlobJournal x = new BlobJournal();
+        Lasting x = new Lasting();
         Check.keep(x, Check.DIGEST_ZERO);
         x.tell(1, 0);
         Check.same("crash", x.crash(37, -1), 37);
@@ -165,33 +165,15 @@ public final class CrashTest {
         Check.fails("a tag that tells none", x, Check.ELEMENT, () -> x.untell(1));
     }
 
-    /**
-     * Writes bytes behind a blob so that the length of this blob, spoilt, makes a right record of
-     * 191 bytes that ends just before the given bytes; and crashes.
-     */
-    private static int crashInto(BlobJournal x, int... behind) {
-        x.sync();
-        int start = x.count(2);
-        Check.keep(x, Check.rowOf(64, 101, 0));
-        Check.keep(x, Check.rowOf(64, 102, 0));
-        Check.keep(x, Check.rowOf(51, 103, 0));
-        int sum = (255 - 64) - 64 + 1 + (behind.length + 1);
-        for (int k = start; k < start + 191; k++) {
-            sum += x.journal(k);
-        }
-        Check.keep(x, Check.join(new int[] {sum & 255}, behind));
-        return x.crash(x.count(2) - start, 1) - start;
-    }
-
     private static void longBlob() {
-        BlobJournal x = new BlobJournal();
-        Check.same("crash into nothing", crashInto(x), 195);
+        Lasting x = new Lasting();
+        Check.same("crash into nothing", Spoilt.crashInto(x), 195);
         Check.same("blobs", x.count(0), 1);
         int[] bytes = Check.join(Check.rowOf(64, 101, 0), new int[] {(1 + 64 + 101) & 255},
             Check.record(1, Check.rowOf(64, 102, 0)), Check.record(1, Check.rowOf(51, 103, 0)),
             new int[] {1, 1, 0});
         Check.sameText("journal", Check.journal(x), Check.row(Check.record(1, bytes)));
-        long digest = digestOf(bytes);
+        long digest = Check.digestOf(bytes);
         Check.same("length", x.length(digest), 191);
         Check.same("byte 190", x.byteOf(digest, 190), 0);
         Check.same("byte 64", x.byteOf(digest, 64), 166);
@@ -205,30 +187,21 @@ public final class CrashTest {
         Check.sameText("blob", Check.blob(x, digest), Check.row(bytes));
     }
 
-    private static long digestOf(int[] bytes) {
-        long h = -7046029254386353131L;
-        for (int b : bytes) {
-            h = (h ^ b) * 1099511628211L;
-        }
-        h = (h ^ bytes.length) * -2960836687156293229L;
-        return h ^ (h >>> 32);
-    }
-
     private static void recordsThatAreRight() {
-        BlobJournal x = new BlobJournal();
+        Lasting x = new Lasting();
         long one = Check.keep(x, 1);
         x.tell(1, one);
         int[] behind = Check.join(Check.record(1, 1), Check.record(3, 7), Check.record(3, 1),
             Check.tellRecord(7, one), Check.keyRecord(4, 4), Check.record(1));
-        Check.same("records that are right", crashInto(x, behind), 195 + behind.length);
+        Check.same("records that are right", Spoilt.crashInto(x, behind), 195 + behind.length);
         Check.same("blobs", x.count(0), 3);
         Check.same("tag(7)", x.tag(7), one);
         Check.same("tag(1)", x.tag(1), 0);
         Check.same("look(4)", x.look(4), 4);
-        BlobJournal y = new BlobJournal();
+        Lasting y = new Lasting();
         Check.keep(y, Check.TWIN_ONE);
         int[] twin = Check.join(Check.record(1, Check.TWIN_TWO), Check.tellRecord(0, Check.TWIN_DIGEST));
-        Check.same("a twin's record", crashInto(y, twin), 195 + twin.length);
+        Check.same("a twin's record", Spoilt.crashInto(y, twin), 195 + twin.length);
         Check.sameText("the first twin", Check.blob(y, Check.TWIN_DIGEST), Check.row(Check.TWIN_ONE));
         Check.same("tag(0)", y.tag(0), Check.TWIN_DIGEST);
         y.collect();
@@ -237,7 +210,7 @@ public final class CrashTest {
     }
 
     private static void recordsThatAreWrong() {
-        BlobJournal model = new BlobJournal();
+        Lasting model = new Lasting();
         long one = Check.keep(model, 1);
         int[] digest = Check.longBytes(one);
         int[][] wrong = {
@@ -264,11 +237,11 @@ public final class CrashTest {
             {1, 200, 0, 0, 0, 0},
         };
         for (int[] record : wrong) {
-            BlobJournal x = new BlobJournal();
+            Lasting x = new Lasting();
             Check.keep(x, 1);
             int[] right = Check.record(1, 77);
             int[] behind = Check.join(right, record, Check.record(1, 78));
-            Check.same("a wrong record " + Check.row(record), crashInto(x, behind), 195 + right.length);
+            Check.same("a wrong record " + Check.row(record), Spoilt.crashInto(x, behind), 195 + right.length);
             Check.same("blobs", x.count(0), 3);
             Check.same("keys", x.count(1), 0);
             Check.same("synced", x.count(3), 5 + 195 + right.length);
@@ -276,69 +249,40 @@ public final class CrashTest {
     }
 
     private static void roomForBlobs() {
-        BlobJournal x = new BlobJournal();
+        Lasting x = new Lasting();
         for (int i = 0; i < 16; i++) {
             Check.keep(x, i);
         }
         int[] right = Check.join(Check.record(1, 16), Check.record(1, 17), Check.record(1, 18), Check.record(1, 3));
         int[] behind = Check.join(right, Check.record(1, 19), Check.record(1, 4), Check.record(3, 0));
-        Check.same("room for 20 blobs", crashInto(x, behind), 195 + right.length);
+        Check.same("room for 20 blobs", Spoilt.crashInto(x, behind), 195 + right.length);
         Check.same("blobs", x.count(0), 20);
     }
 
     private static void roomForKeys() {
-        BlobJournal x = new BlobJournal();
+        Lasting x = new Lasting();
         for (int i = 0; i < 15; i++) {
             x.learn(i, i);
         }
         int[] right = Check.join(Check.keyRecord(15, 3), Check.keyRecord(0, 9));
-        Check.same("room for 16 keys", crashInto(x, Check.join(right, Check.keyRecord(16, 3))), 195 + right.length);
+        Check.same("room for 16 keys", Spoilt.crashInto(x, Check.join(right, Check.keyRecord(16, 3))), 195 + right.length);
         Check.same("keys", x.count(1), 16);
         Check.same("look(15)", x.look(15), 3);
         Check.same("look(0)", x.look(0), 9);
     }
 
     private static void veryLongBlob() {
-        BlobJournal x = new BlobJournal();
+        Lasting x = new Lasting();
         // Behind the spoilt record a head tells 300 bytes; as there are not so many, it is not whole.
-        Check.same("a record that is not whole", crashInto(x, 1, 44, 1, 0, 0, 0), 195);
-        BlobJournal y = new BlobJournal();
-        Check.same("a record of 300 bytes", crashLong(y), 195 + 304);
+        Check.same("a record that is not whole", Spoilt.crashInto(x, 1, 44, 1, 0, 0, 0), 195);
+        Lasting y = new Lasting();
+        int[] bytes = Spoilt.crashIntoLong(y, 300);
         Check.same("blobs", y.count(0), 2);
-        Check.same("bytes", y.count(2), 499);
-        int[] bytes = new int[300];
-        for (int i = 0; i < 300; i++) {
-            bytes[i] = y.journal(195 + 3 + i);
-        }
-        long digest = digestOf(bytes);
+        Check.same("bytes", y.count(2), 195 + 304);
+        long digest = Check.digestOf(bytes);
         Check.same("length", y.length(digest), 300);
         y.pin(0, digest);
         Check.same("collect()", y.collect(), 1);
         Check.sameText("journal", Check.journal(y), Check.row(Check.record(1, bytes)));
-    }
-
-    /** Like crashInto, with a record of 300 bytes behind that ends in the midst of later blobs. */
-    private static int crashLong(BlobJournal x) {
-        Check.keep(x, Check.rowOf(64, 101, 0));
-        Check.keep(x, Check.rowOf(64, 102, 0));
-        Check.keep(x, Check.rowOf(51, 103, 0));
-        int sum = (255 - 64) - 64 + 1 + 4;
-        for (int k = 0; k < 191; k++) {
-            sum += x.journal(k);
-        }
-        Check.keep(x, sum & 255, 1, 44, 1);
-        for (int i = 0; i < 4; i++) {
-            Check.keep(x, Check.rowOf(64, 110 + i, 0));
-        }
-        // The record goes from 195 on; its sum stands at 195 + 303.
-        int[] last = Check.rowOf(60, 120, 0);
-        int place = 195 + 303 - (x.count(2) + 3);
-        int due = 1 + last.length + 120;
-        for (int k = 195; k < x.count(2); k++) {
-            due += x.journal(k);
-        }
-        last[place] = due & 255;
-        Check.keep(x, last);
-        return x.crash(x.count(2), 1);
     }
 }

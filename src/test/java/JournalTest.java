@@ -7,7 +7,7 @@ public final class JournalTest {
         Check.end();
     }
 
-    private static void counts(BlobJournal x, int blobs, int keys, int bytes, int synced) {
+    private static void counts(Lasting x, int blobs, int keys, int bytes, int synced) {
         Check.same("count(0)", x.count(0), blobs);
         Check.same("count(1)", x.count(1), keys);
         Check.same("count(2)", x.count(2), bytes);
@@ -15,7 +15,7 @@ public final class JournalTest {
     }
 
     private static void count() {
-        BlobJournal x = new BlobJournal();
+        Lasting x = new Lasting();
         long digest = Check.keep(x, 1, 2, 3);
         counts(x, 1, 0, 7, 0);
         x.learn(4, 5);
@@ -32,7 +32,7 @@ public final class JournalTest {
     }
 
     private static void journal() {
-        BlobJournal x = new BlobJournal();
+        Lasting x = new Lasting();
         Check.keep(x, 250, 0, 255);
         Check.sameText("journal", Check.journal(x), Check.row(1, 3, 0, 250, 0, 255, (1 + 3 + 250 + 255) & 255));
         for (int k : new int[] {-1, 7, 699, 700, Integer.MIN_VALUE, Integer.MAX_VALUE}) {
@@ -43,7 +43,7 @@ public final class JournalTest {
     }
 
     private static void sync() {
-        BlobJournal x = new BlobJournal();
+        Lasting x = new Lasting();
         long one = Check.keep(x, 1);
         x.sync();
         long two = Check.keep(x, 2);

@@ -8,7 +8,7 @@ public final class KeyTest {
     }
 
     private static void learn() {
-        BlobJournal x = new BlobJournal();
+        Lasting x = new Lasting();
         long key = 0x8070605040302010L;
         x.learn(key, -2);
         int[] first = Check.keyRecord(key, -2);
@@ -30,7 +30,7 @@ public final class KeyTest {
     }
 
     private static void sixteenKeys() {
-        BlobJournal x = new BlobJournal();
+        Lasting x = new Lasting();
         for (int i = 0; i < 16; i++) {
             x.learn(i, 100 + i);
         }
@@ -45,7 +45,7 @@ public final class KeyTest {
     }
 
     private static void noRoom() {
-        BlobJournal x = new BlobJournal();
+        Lasting x = new Lasting();
         for (int i = 0; i < 34; i++) {
             x.learn(5, i);
         }
@@ -55,7 +55,7 @@ public final class KeyTest {
         Check.fails("learn of another digest", x, Check.UNSUPPORTED, () -> x.learn(5, 1));
         x.learn(5, 33);
         Check.same("look", x.look(5), 33);
-        BlobJournal y = new BlobJournal();
+        Lasting y = new Lasting();
         for (int i = 0; i < 35; i++) {
             y.learn(5, i);
         }

@@ -6,13 +6,13 @@ import java.util.Map;
 import java.util.NoSuchElementException;
 import java.util.Random;
 
-/** Long runs of calls, each answer and all that can be seen held against a plain second writing. */
+/** Long runs of calls, each answer and, now and then, all that can be seen held against a plain second writing. */
 public final class ModelTest {
     private static final int RUNS = 2500;
     private static final int CALLS = 160;
 
     private final Random random;
-    private final BlobJournal x = new BlobJournal();
+    private final Lasting x = new Lasting();
     private final Model model = new Model();
     private final List<Long> digests = new ArrayList<>(List.of(0L, 1L, -1L));
     private final List<String> calls = new ArrayList<>();
@@ -145,8 +145,10 @@ public final class ModelTest {
         calls.add(name);
         String want = answer(due);
         String got = answer(real);
-        String wantSeen = model.seen(digests);
-        String gotSeen = seen();
+        // To look at all takes long; a crash and a collection are what changes most at once.
+        boolean looks = calls.size() % 8 == 0 || name.startsWith("crash") || name.startsWith("collect");
+        String wantSeen = looks ? model.seen(digests) : "";
+        String gotSeen = looks ? seen() : "";
         if (got.equals(want) && gotSeen.equals(wantSeen)) {
             return true;
         }

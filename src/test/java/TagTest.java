@@ -10,7 +10,7 @@ public final class TagTest {
     }
 
     private static void tell() {
-        BlobJournal x = new BlobJournal();
+        Lasting x = new Lasting();
         long one = Check.keep(x, 1);
         long two = Check.keep(x, 2);
         int[] blobs = Check.join(Check.record(1, 1), Check.record(1, 2));
@@ -36,7 +36,7 @@ public final class TagTest {
     }
 
     private static void wrongTags() {
-        BlobJournal x = new BlobJournal();
+        Lasting x = new Lasting();
         long one = Check.keep(x, 1);
         x.learn(5, 5);
         x.pin(0, 5);
@@ -52,7 +52,7 @@ public final class TagTest {
     }
 
     private static void digestZero() {
-        BlobJournal x = new BlobJournal();
+        Lasting x = new Lasting();
         Check.keep(x, Check.DIGEST_ZERO);
         x.tell(3, 0);
         Check.same("journal", x.count(2), 24 + 13);
@@ -65,7 +65,7 @@ public final class TagTest {
     }
 
     /** Keeps so many blobs of 64 bytes each, records of 68 bytes: the last one's digest. */
-    private static long keepLong(BlobJournal x, int count) {
+    private static long keepLong(Lasting x, int count) {
         long last = 0;
         for (int i = 0; i < count; i++) {
             last = Check.keep(x, Check.rowOf(64, i, 7));
@@ -74,7 +74,7 @@ public final class TagTest {
     }
 
     private static void noRoom() {
-        BlobJournal x = new BlobJournal();
+        Lasting x = new Lasting();
         long last = keepLong(x, 9);
         Check.keep(x, Check.rowOf(25, 1, 7));
         long other = Check.keep(x, Check.rowOf(25, 2, 7));
@@ -92,17 +92,17 @@ public final class TagTest {
     }
 
     private static void roomToTheLastByte() {
-        BlobJournal x = new BlobJournal();
+        Lasting x = new Lasting();
         long last = keepLong(x, 10);
         Check.keep(x, 1, 2, 3);
         x.tell(0, last);
         Check.same("journal that tell fills", x.count(2), 700);
         Check.same("tag(0)", x.tag(0), last);
-        BlobJournal y = new BlobJournal();
+        Lasting y = new Lasting();
         keepLong(y, 10);
         Check.keep(y, 1, 2, 3, 4);
         Check.fails("tell of 701 bytes", y, Check.UNSUPPORTED, () -> y.tell(0, last));
-        BlobJournal z = new BlobJournal();
+        Lasting z = new Lasting();
         long ninth = keepLong(z, 9);
         Check.keep(z, Check.rowOf(62, 1, 7));
         z.tell(0, ninth);

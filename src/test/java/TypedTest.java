@@ -10,7 +10,7 @@ public final class TypedTest {
     }
 
     private static void newObject() {
-        BlobJournal x = new BlobJournal();
+        Lasting x = new Lasting();
         for (int what = 0; what < 4; what++) {
             Check.same("count(" + what + ") of a new object", x.count(what), 0);
         }
@@ -30,14 +30,14 @@ public final class TypedTest {
     }
 
     private static void type() {
-        BlobJournal x = new BlobJournal();
+        Lasting x = new Lasting();
         Check.same("type", x.type(0xFF804001), 4);
         Check.same("type again", x.type(-2), 8);
         Check.sameText("typed bytes", Check.blob(x, x.keep()), Check.row(1, 64, 128, 255, 254, 255, 255, 255));
     }
 
     private static void typeIsFull() {
-        BlobJournal x = new BlobJournal();
+        Lasting x = new Lasting();
         for (int i = 1; i <= 16; i++) {
             Check.same("type", x.type(i), 4 * i);
         }
@@ -49,7 +49,7 @@ public final class TypedTest {
     }
 
     private static void cut() {
-        BlobJournal x = new BlobJournal();
+        Lasting x = new Lasting();
         x.type(0x04030201);
         Check.fails("cut(-1)", x, Check.ARGUMENT, () -> x.cut(-1));
         Check.fails("cut(5)", x, Check.ARGUMENT, () -> x.cut(5));
@@ -67,7 +67,7 @@ public final class TypedTest {
     }
 
     private static void digest() {
-        BlobJournal x = new BlobJournal();
+        Lasting x = new Lasting();
         Check.type(x, 1, 2, 3);
         Check.same("digest() of 1 2 3", x.digest(), -6188227466131721585L);
         Check.type(x, 1, 2, 3, 1, 0, 0, 0);
