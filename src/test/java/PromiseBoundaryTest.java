@@ -47,7 +47,8 @@ public final class PromiseBoundaryTest {
         Check.sentence("15: Byte k of the journal.", () -> journal());
         Check.sentence("15: IndexOutOfBoundsException if there is none such.", () -> journalWrong());
         Check.sentence("16: All of the journal is synced.", () -> sync());
-        Check.sentence("17: A crash; n bytes behind the synced ones are left", () -> crashLeaves());
+        Check.sentence("17: A crash; n bytes behind the synced ones are left .. how many bytes the journal has then.",
+            () -> crashLeaves());
         Check.sentence("17: byte spoilt of these (from 0 on) turned in all its bits", () -> crashSpoils());
         Check.sentence("17: (none if there is no such)", () -> crashSpoilsNone());
         Check.sentence("17: IllegalArgumentException if n is below 0 or above how many there are.",

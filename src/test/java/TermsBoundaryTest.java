@@ -28,6 +28,7 @@ public final class TermsBoundaryTest {
         Check.sentence("SYNCED are those bytes that were there at the latest sync() or collection.",
             () -> synced());
         Check.sentence("A CRASH leaves the synced bytes and some more.", () -> crashLeaves());
+        Check.sentence("Then all is as the records say", () -> asRecordsSay());
         Check.sentence("read from the beginning as long as they are whole", () -> wholeRecords());
         Check.sentence("and right: the kind 1 to 4", () -> rightKind());
         Check.sentence("so many bytes as it must have (9, 1, 16; of a blob any)", () -> rightLength());
@@ -398,6 +399,40 @@ public final class TermsBoundaryTest {
             Check.same("the second", x.length(Check.digestOf(2)), n >= 5 ? 1 : BlobJournal.NONE);
             Check.same("the third", x.length(Check.digestOf(3)), n >= 10 ? 1 : BlobJournal.NONE);
         }
+    }
+
+    private static void asRecordsSay() {
+        Lasting x = new Lasting();
+        long one = Check.keep(x, 1);
+        long two = Check.keep(x, 2);
+        x.tell(0, one);
+        x.tell(7, one);
+        x.learn(5, 6);
+        x.sync();
+        x.tell(0, two);
+        x.untell(7);
+        x.learn(5, 7);
+        x.learn(6, 7);
+        Check.type(x, 3);
+        int[] ends = {0, 13, 18, 38, 58};
+        for (int end : ends) {
+            Lasting y = x.copy();
+            Check.same("crash(" + end + ", -1)", y.crash(end, -1), 56 + end);
+            Check.same("tag(0)", y.tag(0), end >= 13 ? two : one);
+            Check.same("tag(7)", y.tag(7), end >= 18 ? 0 : one);
+            Check.same("look(5)", y.look(5), end >= 38 ? 7 : 6);
+            Check.same("keys", y.count(1), end >= 58 ? 2 : 1);
+            Check.same("blobs", y.count(0), 2);
+            Check.same("typed bytes stay", y.digest(), Check.digestOf(3));
+        }
+        Lasting none = new Lasting();
+        none.tell(0, Check.keep(none, 1));
+        none.learn(0, 0);
+        Check.same("crash(0, 0)", none.crash(0, 0), 0);
+        Lasting fresh = new Lasting();
+        Check.type(fresh, 1);
+        fresh.lookWhere(none);
+        Check.sameText("all there is when no record says a thing", none.all(), fresh.all());
     }
 
     /** A blob of one byte is synced; behind it come a spoilt record and these bytes: how many of them stay. */
