@@ -27,7 +27,11 @@ final class Check {
     /** Runs the test of one sentence of the document: what is wrong is told with the sentence. */
     static void sentence(String words, Call test) {
         sentence = "\"" + words + "\": ";
-        test.run();
+        try {
+            test.run();
+        } catch (RuntimeException e) {
+            complain("a call that must not throw threw " + e + " at " + e.getStackTrace()[0]);
+        }
         sentence = "";
     }
 
