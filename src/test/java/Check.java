@@ -3,6 +3,11 @@ final class Check {
     /** 20 bytes whose digest is 0 (found by lattice reduction). */
     static final int[] DIGEST_ZERO =
         {68, 32, 130, 60, 15, 2, 5, 24, 3, 3, 3, 14, 2, 7, 2, 15, 25, 31, 31, 1};
+    /** 20 bytes whose digest is -1, which is NONE elsewhere, and 20 whose digest is 1 (found likewise). */
+    static final int[] DIGEST_NONE =
+        {0, 28, 5, 4, 2, 2, 30, 2, 10, 10, 2, 5, 29, 12, 57, 31, 13, 14, 4, 61};
+    static final int[] DIGEST_ONE =
+        {15, 28, 10, 6, 3, 0, 2, 6, 27, 58, 1, 4, 11, 3, 121, 31, 116, 13, 7, 116};
     /** Two rows of bytes with one digest (found by lattice reduction). */
     static final int[] TWIN_ONE =
         {1, 2, 3, 4, 5, 6, 7, 8, 9, 10, 11, 12, 13, 14, 15, 16, 17, 18, 19, 20};

@@ -116,9 +116,9 @@ public final class ModelTest {
         return digest;
     }
 
-    /** Types bytes whose digest is another's or 0. */
+    /** Types bytes whose digest is another's, or 0, 1 or -1. */
     private boolean special() {
-        int[][] rows = {Check.DIGEST_ZERO, Check.TWIN_ONE, Check.TWIN_TWO};
+        int[][] rows = {Check.DIGEST_ZERO, Check.DIGEST_ONE, Check.DIGEST_NONE, Check.TWIN_ONE, Check.TWIN_TWO};
         int[] row = rows[random.nextInt(rows.length)];
         return both("typing " + Arrays.toString(row), () -> none(() -> Check.type(x, row)), () -> none(() -> {
             model.typed.clear();

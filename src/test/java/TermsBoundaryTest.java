@@ -13,6 +13,7 @@ public final class TermsBoundaryTest {
             + "many bytes there are .. (All wrapping.)", () -> digestWraps());
         Check.sentence("(It may be 0, like any other number: then a tag may tell it, but no pin.)",
             () -> digestZero());
+        Check.sentence("like any other number", () -> digestsNextToZero());
         Check.sentence("There are at most 20 BLOBS", () -> twentyBlobs());
         Check.sentence("eight TAGS 0 .. 7, each telling the digest of a blob that is there, or none",
             () -> eightTags());
@@ -135,6 +136,38 @@ public final class TermsBoundaryTest {
         crashed.untell(7);
         Check.same("collect() when it is untold", crashed.collect(), 1);
         Check.same("keys then", crashed.count(1), 0);
+    }
+
+    /** A digest of -1 is not NONE, and one of 1 is no pin's or tag's number. */
+    private static void digestsNextToZero() {
+        int[][] rows = {Check.DIGEST_NONE, Check.DIGEST_ONE};
+        for (int[] bytes : rows) {
+            long digest = bytes == Check.DIGEST_ONE ? 1 : -1;
+            Lasting x = new Lasting();
+            Check.fails("tell without the blob", x, Check.ELEMENT, () -> x.tell(0, digest));
+            Check.same("keep()", Check.keep(x, bytes), digest);
+            Check.same("keep() again", x.keep(), digest);
+            Check.same("bytes", x.count(2), 24);
+            Check.same("length(" + digest + ")", x.length(digest), 20);
+            Check.sameText("blob " + digest, Check.blob(x, digest), Check.row(bytes));
+            Check.same("collect() with nothing that tells it", x.copy().collect(), 1);
+            Lasting pinned = x.copy();
+            pinned.pin(3, digest);
+            Check.same("collect() with a pin", pinned.copy().collect(), 0);
+            pinned.crash(24, -1);
+            Check.same("collect() after a crash took the pin", pinned.collect(), 1);
+            x.learn(digest, digest);
+            x.tell(0, digest);
+            Check.same("tag(0)", x.tag(0), digest);
+            Check.same("collect() with a tag", x.collect(), 0);
+            Check.same("crash(0, -1)", x.crash(0, -1), 24 + 13 + 20);
+            Check.same("tag(0) after a crash", x.tag(0), digest);
+            Check.same("look(" + digest + ")", x.look(digest), digest);
+            x.untell(0);
+            Check.same("tag(0) untold", x.tag(0), 0);
+            Check.same("collect() when it is untold", x.collect(), 1);
+            Check.same("length of what went", x.length(digest), BlobJournal.NONE);
+        }
     }
 
     // How many there are
